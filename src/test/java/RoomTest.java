@@ -19,8 +19,8 @@ public final class RoomTest {
         new JoinMaps().fill(0, 0, 1, 1);
         measure("puts", "", (x, i) -> x.put(i % 6, i * 7 % 1001 - 500, i));
         measure("fills", "", (x, i) -> x.fill(i % 6, -500 + i % 5, 200, 5));
-        measure("scatters", "", (x, i) -> x.scatter(i % 6, i * 1999 % 1000000, 100));
-        measure("refused scatters", "", (x, i) -> x.scatter(0, i * 1999 % 1000000, 100));
+        measure("scatters", "b=(b-{1})&{2};c={};d={};e={};f={};", RoomTest::scatter);
+        measure("refused scatters", "", RoomTest::scatterUntilFull);
         measure("refused unions", "", (x, i) -> x.mix(0, 0, 1, 2));
         measure("eithers", "", (x, i) -> x.mix(3, i % 2, 3 + i % 2, 2));
         measure("lesses", "", (x, i) -> x.mix(2, i % 2, 3 + i % 2, 2));
@@ -34,6 +34,22 @@ public final class RoomTest {
         measure("refused sums", "f=" + "(a+a)-((b+b)-(".repeat(5) + "a^b" + "))".repeat(5) + ";", (x, i) -> x.sums());
         measure("sums and others", "a=(a+a)^(a-b);b=(b^c)&b+b;c=c+c;d=(d+d)&(d+d);e=e+e&e;f=f+f;", RoomTest::all);
         Check.end();
+    }
+
+    private static void scatter(JoinMaps x, int i) {
+        if (i % 6 == 0) {
+            x.sums();
+        } else {
+            x.scatter(i % 6, i * 1999 % 1000000, 100);
+        }
+    }
+
+    private static void scatterUntilFull(JoinMaps x, int i) {
+        if (i == 0) {
+            x.fill(0, -500, 170, 5);
+        } else {
+            x.scatter(0, i * 1999 % 1000000, 100);
+        }
     }
 
     private static void all(JoinMaps x, int i) {

@@ -12,6 +12,7 @@ public final class TextTest {
         signs();
         sumsOneBehindTheOther();
         full();
+        fullAgainAndAgain();
         Check.end();
     }
 
@@ -161,6 +162,20 @@ public final class TextTest {
         if (want < 0) {
             Check.due("\"" + text + "\": nothing done", x.told(6), 203);
         }
+    }
+
+    /** What a refused text left half done does not come into the way of later ones. */
+    private static void fullAgainAndAgain() {
+        JoinMaps x = new JoinMaps();
+        x.fill(0, -500, 200, 1);
+        x.fill(1, 0, 200, 1);
+        Check.write(x, "d=" + "{7}-(".repeat(15) + "a+b" + ")".repeat(15) + ";");
+        for (int i = 1; i <= 50; i++) {
+            Check.due("full, time " + i, x.sums(), JoinMaps.FULL);
+        }
+        x.clears(1, 0, 500);
+        Check.due("no more full", x.sums(), 1);
+        Check.dueMap("no more full", x, 3, "{7:7}");
     }
 
     private static void full() {

@@ -26,7 +26,24 @@ public final class TreeTest {
         x.fill(0, -3, 7, 1);
         Inside.write(Inside.root(x, 0), "sum", 1L);
         Check.due("sound with a wrong sum", x.sound(0), 0);
+        soundSeesKeys();
         soundSeesLeaning();
+    }
+
+    private static void soundSeesKeys() {
+        int[][] keys = {{500, 1}, {-500, 1}, {501, 0}, {-501, 0}};
+        for (int[] k : keys) {
+            JoinMaps x = new JoinMaps();
+            x.fill(0, 0, 1, 1);
+            Inside.write(Inside.root(x, 0), "key", k[0]);
+            Check.due("sound with key " + k[0], x.sound(0), k[1]);
+        }
+        for (String side : new String[] {"left", "right"}) {
+            JoinMaps x = new JoinMaps();
+            x.fill(0, 0, 3, 1);
+            Inside.write(Inside.read(Inside.root(x, 0), side), "key", 1);
+            Check.due("sound with like keys on the " + side, x.sound(0), 0);
+        }
     }
 
     /** A chain to the right, with true counts and sums: of three entries it is within the bound, of four it is not. */
