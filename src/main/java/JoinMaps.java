@@ -1048,8 +1048,11 @@ public final class JoinMaps {
         }
 
         private boolean acceptsTarget(int c) {
+            if (!isLetter(c)) {
+                return false;
+            }
             target = c - 'a';
-            return isLetter(c) && goOn(EQUALS);
+            return goOn(EQUALS);
         }
 
         private boolean acceptsAtom(int c) {
@@ -1137,6 +1140,7 @@ public final class JoinMaps {
         private boolean acceptsNumber(int c) {
             int start = c == '-' ? at + 1 : at;
             if (start == length) {
+                // A '-' is the last byte: the number may still become one, the text ends too early.
                 at = length;
                 return true;
             }
