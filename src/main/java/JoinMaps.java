@@ -1136,14 +1136,12 @@ public final class JoinMaps {
             }
         }
 
-        /** A number that is not as told is at fault as a whole, so the place stays at its first byte. */
+        /**
+         * A number that is not as told is at fault as a whole, so the place stays at its first byte: at a '-' that
+         * has no figure, too, whatever stands behind it, be it the text's end.
+         */
         private boolean acceptsNumber(int c) {
             int start = c == '-' ? at + 1 : at;
-            if (start == length) {
-                // A '-' is the last byte: the number may still become one, the text ends too early.
-                at = length;
-                return true;
-            }
             int end = start;
             int n = 0;
             while (end < length && isIn(bytes[end], '0', '9')) {

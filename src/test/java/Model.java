@@ -491,9 +491,7 @@ final class Model {
 
         private int number() {
             peek();
-            String rest = s.substring(at);
-            if (rest.equals("-")) throw new Fault(s.length());
-            java.util.regex.Matcher found = java.util.regex.Pattern.compile("^-?[0-9]+").matcher(rest);
+            java.util.regex.Matcher found = java.util.regex.Pattern.compile("^-?[0-9]+").matcher(s.substring(at));
             expect(found.find());
             String figures = found.group().replace("-", "");
             expect(figures.length() <= 3 && Integer.parseInt(figures) <= 500);

@@ -46,7 +46,7 @@ public final class TextTest {
     /** A text and the place of its fault; where a text ends too early that is its length. */
     private static final Object[][] FAULTS = {
             {"", 0}, {" ", 1}, {"a", 1}, {"a ", 2}, {"a=", 2}, {"a=b", 3}, {"a=b+", 4}, {"a=b&", 4}, {"a=(", 3},
-            {"a=(b", 4}, {"a=(b)", 5}, {"a={", 3}, {"a={1", 4}, {"a={1,", 5}, {"a={1,2", 6}, {"a={}", 4}, {"a={-", 4},
+            {"a=(b", 4}, {"a=(b)", 5}, {"a={", 3}, {"a={1", 4}, {"a={1,", 5}, {"a={1,2", 6}, {"a={}", 4},
             {"a=b;a", 5}, {"a=b;a=", 6}, {"a=b; c=d", 8},
             {"=", 0}, {";", 0}, {"g=a;", 0}, {"A=a;", 0}, {"`=a;", 0}, {"1=a;", 0}, {"(a)=b;", 0}, {" ;", 1},
             {"aa=b;", 1}, {"a;", 1}, {"a+b;", 1}, {"a==b;", 2}, {"a=;", 2}, {"a=g;", 2}, {"a=1;", 2}, {"a=-b;", 2},
@@ -61,6 +61,8 @@ public final class TextTest {
             {"a={501};", 3}, {"a={-501};", 3}, {"a={999};", 3}, {"a={0001};", 3}, {"a={1000};", 3}, {"a={-0000};", 3},
             {"a={1,-1234};", 5}, {"a={1, 501};", 6}, {"a={501", 3}, {"a={12345678901234567890};", 3},
             {"a={-};", 3}, {"a={--1};", 3}, {"a={- 1};", 3}, {"a={1,-};", 5}, {"a={-b};", 3},
+            {"a={-", 3}, {"a={- ", 3}, {"a={ -", 4}, {"a={1,-", 5}, {"a={1, -", 6}, {"a=b;c={-", 7}, {"a={-1", 5},
+            {"a={-501", 3}, {"a={1234", 3}, {"a={-1234", 3}, {"a={500", 6}, {"a=b-", 4},
             {"a\t=b;", 1}, {"a=b;\n", 4}, {"a=\0;", 2}, {"a=b\u007f;", 3}};
 
     private static void faults() {
@@ -69,11 +71,14 @@ public final class TextTest {
         }
     }
 
-    /** Which bytes can stand behind a beginning: all others are the fault, these make the text end too early. */
+    /**
+     * Which bytes can stand behind a beginning: all others are the fault, these make the text end too early. The - of
+     * a number is not among them, since it is at fault itself as long as no figure stands behind it.
+     */
     private static void everyByteInEveryPlace() {
         String[][] can = {{"", " abcdef"}, {"a", " ="}, {"a=", " abcdef({"}, {"a=b", " +-^&;"}, {"a=(b", " +-^&)"},
-                {"a=b+", " abcdef({"}, {"a=b&", " abcdef({"}, {"a={", " }-0123456789"}, {"a={1", " ,}0123456789"},
-                {"a={1,", " -0123456789"}, {"a={1 ", " ,}"}, {"a={}", " +-^&;"}, {"a=(b)", " +-^&;"},
+                {"a=b+", " abcdef({"}, {"a=b&", " abcdef({"}, {"a={", " }0123456789"}, {"a={1", " ,}0123456789"},
+                {"a={1,", " 0123456789"}, {"a={1 ", " ,}"}, {"a={}", " +-^&;"}, {"a=(b)", " +-^&;"},
                 {"a=b;", " abcdef"}, {"a={1,2,3,4,5,6,7,8", " }0123456789"}};
         for (String[] c : can) {
             for (int b = 0; b < 128; b++) {
