@@ -31,7 +31,7 @@ public final class JoinMaps {
     private final byte[] text = new byte[TEXT_LIMIT];
     private final Plan plan = new Plan();
     private final Reader reader = new Reader(text, plan);
-    private final Bench bench = new Bench(grove, blender);
+    private final Bench bench = new Bench(grove);
     private final Row first = new Row();
     private final Row second = new Row();
     private int typed;
@@ -385,9 +385,17 @@ public final class JoinMaps {
         bench.lay(maps);
         for (int i = 0; i < plan.length; i++) {
             startChange();
-            if (!bench.act(plan.deedAt(i), plan.numberAt(i))) {
+            int deed = plan.deedAt(i);
+            if (deed > EITHER) {
+                bench.act(deed, plan.numberAt(i));
+                continue;
+            }
+            Node right = bench.pop();
+            Node blend = blender.blend(deed, bench.pop(), right, 0);
+            if (Node.countOf(blend) > ENTRY_LIMIT) {
                 return full();
             }
+            bench.push(blend);
         }
         versions.leave(maps);
         bench.bring(maps);
@@ -1171,12 +1179,10 @@ public final class JoinMaps {
         final Node[] maps = new Node[MAPS];
         final Node[] stack = new Node[TEXT_LIMIT];
         private final Grove grove;
-        private final Blender blender;
         private int height;
 
-        Bench(Grove grove, Blender blender) {
+        Bench(Grove grove) {
             this.grove = grove;
-            this.blender = blender;
         }
 
         void lay(Node[] from) {
@@ -1195,27 +1201,21 @@ public final class JoinMaps {
             }
         }
 
-        /** Answers false if more entries came out than a map may have. */
-        boolean act(int deed, int number) {
+        /** Does all deeds but the blends, from which more entries may come than a map may have. */
+        void act(int deed, int number) {
             switch (deed) {
                 case Plan.TAKE_MAP:
                     push(isMap(number) ? maps[number] : null);
-                    return true;
-                case Plan.TAKE_EMPTY:
-                    push(null);
-                    return true;
+                    break;
                 case Plan.ADD_KEY:
                     push(grove.with(pop(), number, number));
-                    return true;
+                    break;
                 case Plan.STORE:
                     store(number);
-                    return true;
+                    break;
                 default:
-                    Node right = pop();
-                    Node left = pop();
-                    Node made = blender.blend(deed, left, right, 0);
-                    push(made);
-                    return Node.countOf(made) <= ENTRY_LIMIT;
+                    push(null);
+                    break;
             }
         }
 
@@ -1226,14 +1226,14 @@ public final class JoinMaps {
             }
         }
 
-        private void push(Node tree) {
+        void push(Node tree) {
             if (height < TEXT_LIMIT) {
                 stack[height] = tree;
                 height++;
             }
         }
 
-        private Node pop() {
+        Node pop() {
             if (height == 0) {
                 return null;
             }

@@ -25,6 +25,7 @@ public final class BoundaryTextTest {
         oneBehindTheOther();
         full();
         faultAheadOfFull();
+        textsOneAfterAnother();
         Check.end();
     }
 
@@ -330,5 +331,28 @@ public final class BoundaryTextTest {
     private static void faultAheadOfFull() {
         Boundary.answers("33: a FAULT ahead of FULL", () -> crowded("d=a+b"), JoinMaps::sums, -15);
         Boundary.answers("33: a FAULT ahead of FULL", () -> crowded("d=a+b;e=g;"), JoinMaps::sums, -18);
+    }
+
+    /** A text that was at fault, or refused, leaves nothing behind for the next one of the same object. */
+    private static void textsOneAfterAnother() {
+        String[] faults = {"a=((((", "a=(b&(c+", "a=b+c&", "a=b;c=d;e=", "a={1,2,3,4,5,6,7", "a={-", "a", "", "a=b;g"};
+        JoinMaps x = made("");
+        int versions = x.told(3);
+        for (String text : faults) {
+            Check.write(x, text);
+            int place = text.endsWith("-") || text.endsWith("g") ? text.length() - 1 : text.length();
+            Check.due("33: \"" + text + "\"", x.sums(), -10 - place);
+            Check.write(x, "d=a+b&c;");
+            Check.due("33: behind \"" + text + "\"", x.sums(), 1);
+            Check.dueMap("33: behind \"" + text + "\"", x, 3, "{1:10,2:20,3:300}");
+            Check.write(x, "d=b);");
+            Check.due("33: behind \"" + text + "\", closed without one", x.sums(), -13);
+            Check.due("33: behind \"" + text + "\"", x.back(), versions);
+        }
+        JoinMaps y = crowded("d=c-(c-(c-(a+c)));");
+        Check.due("33: FULL within brackets", y.sums(), FULL);
+        Check.write(y, "d=c-b;");
+        Check.due("33: behind FULL", y.sums(), 1);
+        Check.dueMap("33: behind FULL", y, 3, "{0:0}");
     }
 }

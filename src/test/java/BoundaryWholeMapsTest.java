@@ -24,6 +24,7 @@ public final class BoundaryWholeMapsTest {
         zip();
         clears();
         sound();
+        smallBehindLarge();
         Check.end();
     }
 
@@ -310,5 +311,32 @@ public final class BoundaryWholeMapsTest {
         Boundary.answers("29: two", () -> of(500, 1, -500, 1), x -> x.sound(0), 1);
         Boundary.answers("29: 200", () -> filled(200), x -> x.sound(0), 1);
         Boundary.refuses("29: BAD", () -> filled(200), x -> x.sound(6), BAD);
+    }
+
+    /** A call that makes a map of few entries, or none, keeps nothing of the 200 that the one ahead of it made. */
+    private static void smallBehindLarge() {
+        Boundary.Call[] large = {x -> x.fill(2, 0, 200, 1), x -> x.sieve(0, 0, 0, 2), x -> x.raise(0, -500, 500, 0),
+                x -> x.slide(0, 0), x -> x.zip(0, 0, 2), x -> x.share(0, 2), x -> x.gap(0), x -> x.same(0, 0)};
+        for (int i = 0; i < large.length; i++) {
+            Boundary.Call ahead = large[i];
+            Boundary.Made made = () -> {
+                JoinMaps x = Boundary.with(filled(200), 1, 7, 9);
+                ahead.applyAsLong(x);
+                return x;
+            };
+            String said = "behind a large one, " + i;
+            Boundary.changes("22: " + said, made, x -> x.fill(3, 1, 1, 1), 1, "d={1:1}");
+            Boundary.changes("23: " + said, made, x -> x.sieve(1, 0, 0, 3), 1, "d={7:9}");
+            Boundary.changes("23: none " + said, made, x -> x.sieve(1, 1, 0, 3), 0, "d={}");
+            Boundary.changes("24: " + said, made, x -> x.raise(1, 7, 7, 1), 1, "b={7:10}");
+            Boundary.changes("25: " + said, made, x -> x.slide(1, 1), 1, "b={8:9}");
+            Boundary.changes("26: " + said, made, x -> x.zip(1, 0, 3), 1, "d={7:-500}");
+            Boundary.changes("26: none " + said, made, x -> x.zip(0, 4, 3), 0, "d={}");
+            Boundary.answers("13: " + said, made, x -> x.gap(1), JoinMaps.NONE);
+            Boundary.answers("11: " + said, made, x -> x.most(1, -500, 500, 0), 9);
+            Boundary.answers("14: " + said, made, x -> x.top(1, 0), 7);
+            Boundary.answers("16: " + said, made, x -> x.common(1, 4), 0);
+            Boundary.answers("17: " + said, made, x -> x.apart(1, 4), 7);
+        }
     }
 }

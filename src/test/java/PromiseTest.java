@@ -58,16 +58,12 @@ public final class PromiseTest {
         Check.dueMap(call, x, m, want);
     }
 
-    /** Entries key, value, key, value .. put into a map. */
     private static JoinMaps with(JoinMaps x, int m, int... entries) {
-        for (int i = 0; i < entries.length; i += 2) {
-            x.put(m, entries[i], entries[i + 1]);
-        }
-        return x;
+        return Boundary.with(x, m, entries);
     }
 
     private static JoinMaps of(int... entries) {
-        return with(new JoinMaps(), 0, entries);
+        return Boundary.of(entries);
     }
 
     private static void newObject() {
