@@ -256,6 +256,8 @@ public final class BoundaryEntriesTest {
     private static void gap() {
         Boundary.answers("13: NONE: empty", JoinMaps::new, x -> x.gap(0), NONE);
         Boundary.answers("13: NONE: one", () -> of(1, 1), x -> x.gap(0), NONE);
+        Boundary.answers("13: NONE: one, the least", () -> of(-500, 1), x -> x.gap(0), NONE);
+        Boundary.answers("13: NONE: one, the greatest", () -> of(500, 1), x -> x.gap(0), NONE);
         Boundary.answers("13: two", () -> of(1, 1, 2, 1), x -> x.gap(0), 1);
         Boundary.answers("13: the greatest there is", () -> of(-500, 1, 500, 1), x -> x.gap(0), 1000);
         Boundary.answers("13: the first step", () -> of(-9, 1, 1, 1, 3, 1), x -> x.gap(0), 10);

@@ -51,6 +51,9 @@ public final class BoundaryTextTest {
         done("119 bytes", " ".repeat(115) + "a=b;", 1, "a={2:200,3:300}");
         fault("120 bytes, ending too early", "a=b" + "&b".repeat(58) + "&", 120);
         fault("120 bytes, the last is wrong", "a=b" + "&b".repeat(58) + "b", 119);
+        fault("120 bytes, ending in a NUMBER", " ".repeat(116) + "a={1", 120);
+        fault("120 bytes, ending in a -", " ".repeat(116) + "a={-", 119);
+        fault("120 bytes, ending in four figures", " ".repeat(113) + "a={1234", 116);
         fault("120 blanks", " ".repeat(120), 120);
         fault("the first is wrong", ";".repeat(120), 0);
     }
@@ -348,6 +351,12 @@ public final class BoundaryTextTest {
             Check.write(x, "d=b);");
             Check.due("33: behind \"" + text + "\", closed without one", x.sums(), -13);
             Check.due("33: behind \"" + text + "\"", x.back(), versions);
+        }
+        for (String text : new String[] {"a={1", "a={50", "a={-50", "a={500", "a={"}) {
+            // Of the text that was wiped, the figure at this one's length would make a NUMBER that is not as told.
+            Check.write(x, text + "1234567");
+            Check.write(x, text);
+            Check.due("33: behind what was wiped, \"" + text + "\"", x.sums(), -10 - text.length());
         }
         JoinMaps y = crowded("d=c-(c-(c-(a+c)));");
         Check.due("33: FULL within brackets", y.sums(), FULL);
